@@ -47,6 +47,7 @@ public final class KeepersTest {
         due("the least of several", Checks.larderOf("jj0004;jj1104;").dearest(), 0);
         due("one that keeps none alone", Checks.larderOf("jj0000;jj1004;jj1104;").dearest(), 1);
         due("none has food", Checks.larderOf("jj0000;").dearest(), -9);
+        due("one of 1", Checks.larderOf("jj0001;").dearest(), 0);
         due("a shut one, too", Checks.larderOf("jj1004;jj1004;jj2004;x2;").dearest(), 2);
     }
 
@@ -90,7 +91,12 @@ public final class KeepersTest {
         due("leak(2)", x.leak(2), -2);
         due("leak(-1)", x.leak(-1), -2);
         due("nothing is eaten", x.count(4), 12);
+        due("without jars", new LarderAges().leak(0), 0);
         due("without jars", new LarderAges().leak(1), 0);
+        // Each CUSTOM is kept on two SHELVES.
+        LarderAges twice = Checks.larderOf("jd0001;jd0101;jd2001;jh2401;jd4001;jd6001;jd6101;jh8301;jh8501;");
+        due("all ten stay", twice.leak(0), 0);
+        due("all ten stay", twice.leak(1), 10);
     }
 
     private static void feast() {

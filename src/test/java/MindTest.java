@@ -41,6 +41,8 @@ public final class MindTest {
         due("knownThen(61)", x.knownThen(61), -6);
         due("hungerThen(-1)", x.hungerThen(-1), -4);
         due("hungerThen(61)", x.hungerThen(61), -6);
+        due("foodThen(2, 7)", x.foodThen(2, 7), 13);
+        due("foodThen(2, 60)", x.foodThen(2, 60), 0);
         due("foodThen(3, -1)", x.foodThen(3, -1), -1);
         due("foodThen(-1, 61)", x.foodThen(-1, 61), -1);
         due("foodThen(0, -1)", x.foodThen(0, -1), -4);
@@ -72,6 +74,12 @@ public final class MindTest {
         due("first(3)", x.first(3), 20);
         due("first(3) without food", Checks.larderOf("jj0000;").first(3), 0);
         due("first(2) without jars", new LarderAges().first(2), 1);
+        LarderAges last = Checks.larderOf("jj1020;jj1020;jj1020;f01;");
+        due("forgotten in the last year", last.first(1), 60);
+        due("forgotten in the last year", last.first(0), 1);
+        last.eats(0, 1);
+        due("hungry in the last year", last.first(2), 60);
+        due("forgotten ahead of it", last.first(1), 59);
         LarderAges two = Checks.larderOf("jj3003;jj3120;x1;");
         due("a custom that another jar keeps is not forgotten", two.first(0), -9);
     }
@@ -163,6 +171,8 @@ public final class MindTest {
         due("behind 8 years brawn on shelf 3 is bare", x.fill(8, 3, 8, 0), 4);
         due("food is 9", x.fill(3, 5, 8, 1), 3);
         due("food is 9", x.fill(3, 5, 9, 1), 1);
+        due("behind 30 years", x.fill(3, 2, 30, 0), 0);
+        due("behind 30 years", x.fill(3, 2, 30, 1), 1);
         due("no jar has come", x.count(0), 0);
         due("fill(-1, 6, -1, 2)", x.fill(-1, 6, -1, 2), -1);
         due("fill(-1, -1, 31, 2)", x.fill(-1, -1, 31, 2), -1);

@@ -96,6 +96,8 @@ public final class OddsTest {
         due("mean(2)", x.mean(2), LONG_REFUSAL + 2);
         due("mean(-1)", x.mean(-1), LONG_REFUSAL + 2);
         due("count(12)", x.count(12), 2);
+        due("one jar", Checks.larderOf("jj0003;").mean(0), 3);
+        due("one jar", Checks.larderOf("jj0003;").mean(1), 1);
         due("0 by 1", Checks.larderOf("jj0000;jj0000;").mean(1), 1);
         due("0 by 1", new LarderAges().mean(1), 1);
         due("0 by 1", new LarderAges().mean(0), 0);

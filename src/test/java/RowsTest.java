@@ -74,6 +74,7 @@ public final class RowsTest {
         due("the row has none then", x.count(6), 0);
         x.row(2);
         x.row(2);
+        // Behind 2 YEARS jar 1 still holds 2, so 1 is wrong there.
         x.row(1);
         x.row(0);
         due("wrong behind 2 years", x.judge(), 2);
@@ -104,6 +105,11 @@ public final class RowsTest {
         due("a larder", Checks.tell(x, "j3009;y01;"), 2);
         due("on() again, the jar is gone", x.on(), 2);
         due("jars", x.count(0), 2);
+        due("a jar that was shut, gone, and another in its place", Checks.tell(x, "jj3009;x2;"), 2);
+        x.on();
+        due("a jar comes not shut", Checks.tell(x, "jj3009;"), 1);
+        due("shut is what was", x.count(5), 2);
+        x.on();
         x.years(1);
         due("an image anew", x.image(), 3);
         x.years(1);
