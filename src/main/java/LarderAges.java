@@ -965,8 +965,8 @@ public final class LarderAges {
             int all = knownBits();
             int best = set;
             for (int some = 0; some < 1 << jars; some++) {
-                boolean isOfSet = (some & ~set) == 0;
-                if (isOfSet && Integer.bitCount(some) < Integer.bitCount(best) && (besides | keptBy(some)) == all) best = some;
+                boolean isFewer = (some & ~set) == 0 && Integer.bitCount(some) < Integer.bitCount(best);
+                if (isFewer && (besides | keptBy(some)) == all) best = some;
             }
             return best;
         }
