@@ -24,6 +24,7 @@ public final class LarderAges {
     private static final int JOY_OF_EATING = 2;
     private static final int MAX_CENTURIES = 20;
     private static final int YEARS_OF_LOTS = 10;
+    private static final int WITHOUT_SIGN = 0x7fffffff;
     private static final int MAX_LETTERS = 96;
     private static final int MAX_LETTER = 255;
     private static final int MAX_ROW = 16;
@@ -702,7 +703,7 @@ public final class LarderAges {
     }
 
     private static int drawn(int z, int below) {
-        return below < 1 ? 0 : (z & Integer.MAX_VALUE) / 256 % below;
+        return below < 1 ? 0 : (z & WITHOUT_SIGN) / 256 % below;
     }
 
     // ---- the image and counts

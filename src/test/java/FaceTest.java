@@ -1,4 +1,6 @@
+import com.sun.management.ThreadMXBean;
 import java.io.IOException;
+import java.lang.management.ManagementFactory;
 import java.lang.reflect.Constructor;
 import java.lang.reflect.Field;
 import java.lang.reflect.Method;
@@ -20,8 +22,12 @@ public final class FaceTest {
         "int keepers 1", "int fewest 0", "int dearest 0", "int fullest 1", "int age 1", "int leak 1", "int fill 4",
         "int feast 0", "int two 3", "long mice 4", "long mean 1", "int whatWas 2", "int row 1", "int judge 0",
         "int clear 0", "int lots 3", "int image 0", "int on 0", "int count 1"};
-    private static final String[] RULED_OUT = {"import ", "package ", "catch", "finally", "synchronized", "assert ",
-        "->", "::", "throw", "protected ", "static {", "volatile", "Exact(", "System.out", "native ", "while (true)"};
+    private static final String[] RULED_OUT = {"package ", "finally", "synchronized", "assert ", "::", "protected ",
+        "static {", "Exact(", "System.out", "native ", "while (true)", "Integer.MAX_VALUE", "Integer.MIN_VALUE"};
+    /** 7.3 million fields and elements of 8 bytes at most and 600,000 heads of objects and arrays of 16. */
+    private static final long ROOM = 7_300_000L * 8 + 600_000L * 16;
+    private static final String[] DEAREST = {"shutBest 30 99 0", "mice 3 7 20 0", "lots 20 7 0", "move 30", "folkFor 3 30",
+        "fill 3 5 30 0", "two 0 1 30", "whatWas 0 0", "feast", "fewest", "first 2", "tell f03;x0;y01;"};
 
     private static final List<String> FAULTS = new ArrayList<>();
 
@@ -30,6 +36,7 @@ public final class FaceTest {
         lookAtMembers();
         lookAtClassesInside();
         lookAtSource();
+        lookAtRoom();
         for (String fault : FAULTS) System.out.println(fault);
         System.out.println(FAULTS.size() + " faults of the face");
         if (!FAULTS.isEmpty()) System.exit(1);
@@ -73,7 +80,8 @@ public final class FaceTest {
             int of = inside.getModifiers();
             mustBe(Modifier.isStatic(of) && !Modifier.isPublic(of) && !Modifier.isProtected(of), inside + " is not static and hidden");
             for (Method method : inside.getDeclaredMethods()) {
-                mustBe(!isOfFace(method.getName()), inside + " bears the name " + method.getName());
+                boolean isPrivate = Modifier.isPrivate(method.getModifiers());
+                mustBe(!isPrivate || !isOfFace(method.getName()), "a private method of " + inside + " bears the name " + method.getName());
             }
         }
     }
@@ -87,14 +95,22 @@ public final class FaceTest {
         String source = Files.readString(SOURCE);
         for (String word : RULED_OUT) mustBe(!source.contains(word), "the source holds '" + word.trim() + "'");
         mustBe(source.chars().allMatch(c -> c < 127), "the source holds other signs than plain ones");
-        lookAtMaking(source);
     }
 
-    /** Objects and arrays are made as fields alone: a call makes none. */
-    private static void lookAtMaking(String source) {
-        for (String line : source.split("\n")) {
-            boolean isField = line.matches("\\s*(private )?final \\S+ \\w+ = new [^;]+;");
-            mustBe(!line.contains("new ") || isField || line.contains("/**"), "made in a call: " + line.trim());
+    /** What a run of the dearest calls takes of the one room that all calls live in. */
+    private static void lookAtRoom() {
+        if (!(ManagementFactory.getThreadMXBean() instanceof ThreadMXBean)) return;
+        ThreadMXBean bean = (ThreadMXBean) ManagementFactory.getThreadMXBean();
+        if (!bean.isThreadAllocatedMemorySupported()) return;
+        long thread = Thread.currentThread().getId();
+        for (String call : DEAREST) {
+            LarderAges x = Checks.larderOf("jj0020;jc1120;jp2220;jb3320;jh4420;jd5520;jj6020;jj7120;jj8220;");
+            for (int i = 0; i < 16; i++) x.row(20);
+            long before = bean.getThreadAllocatedBytes(thread);
+            for (int i = 0; i < 40; i++) Checks.answer(x, call);
+            // The test's own texts and reflection are counted, too.
+            long taken = (bean.getThreadAllocatedBytes(thread) - before) / 40 * 512;
+            mustBe(taken < ROOM, "512 calls of " + call + " take " + taken);
         }
     }
 }

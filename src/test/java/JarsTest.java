@@ -189,7 +189,6 @@ public final class JarsTest {
         due("hungerThen(60)", x.hungerThen(60), 19);
         due("shutBest(30, 19, 1)", x.shutBest(30, 19, 1), 0);
         due("shutBest(30, 18, 1)", x.shutBest(30, 18, 1), -9);
-        due("each century begins with the hunger of now", x.lots(5, 1, 1), 95);
         x.years(2);
         due("hunger", x.count(2), 9999);
         due("hungerThen(60)", x.hungerThen(60), 0);

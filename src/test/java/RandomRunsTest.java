@@ -40,10 +40,17 @@ public final class RandomRunsTest {
     }
 
     private boolean isAsPlain() throws ReflectiveOperationException {
-        // Some runs begin with a few jars, some with nothing.
+        // Some runs begin in the last YEARS, some with a few jars, some with nothing.
+        if (random.nextInt(8) == 0 && !comeToTheLastYears()) return false;
         boolean good = random.nextInt(8) == 0 || tell(3 + random.nextInt(7));
         while (good && calls.size() < CALLS) good = random.nextInt(12) == 0 ? tell(1 + random.nextInt(4)) : callOne();
         return good;
+    }
+
+    private boolean comeToTheLastYears() throws ReflectiveOperationException {
+        boolean good = isSame("folk", 0);
+        for (int i = 0; i < 16; i++) good = good && isSame("years", 60);
+        return good && isSame("years", 30 + random.nextInt(10)) && isSame("folk", random.nextInt(6));
     }
 
     private boolean callOne() throws ReflectiveOperationException {
