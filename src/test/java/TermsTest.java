@@ -58,7 +58,8 @@ public final class TermsTest {
             "tell x9; = -2000", "tell e90; = -2000");
         // "no such JAR so far": the last one is, the one behind it is not.
         CHECKS.scriptOf("jj0005;jj1005;", "tell m10; = 1", "tell m20; = -2000", "tell x1; = 1", "tell x2; = -2000", "tell x1; = 1",
-            "tell e10; = 1", "tell e20; = -2000", "jar 1 0 = 0", "jar 2 0 = -1");
+            "tell e10; = 1", "tell e20; = -2000", "jar 1 0 = 0", "jar 2 0 = -1",
+            "tell m30; = -2000", "tell x5; = -2000", "tell e80; = -2000", "jar 8 0 = -1");
         CHECKS.scriptOf("", "tell m00; = -2000", "tell x0; = -2000", "tell e00; = -2000");
     }
 
