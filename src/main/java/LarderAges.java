@@ -305,7 +305,7 @@ public final class LarderAges {
 
     public int first(int what) {
         switch (what) {
-            case 0: return forgottenFirst();
+            case 0: return yearOfForgetting() == NONE ? NONE : leastForgotten();
             case 1: return yearOfForgetting();
             case 2: return yearOfHunger();
             case 3: return yearWithoutFood();
@@ -332,21 +332,20 @@ public final class LarderAges {
         return thought.hunger - now.hunger;
     }
 
-    private int forgottenFirst() {
-        if (yearOfForgetting() == NONE) return NONE;
-        int forgotten = forgottenInThought();
-        for (int custom = 0; custom < CUSTOMS; custom++) {
-            if (hasBit(forgotten, custom)) return custom;
-        }
-        return NONE;
-    }
-
     /** Leaves the thought in the year that it answers. */
     private int yearOfForgetting() {
         thought.become(now);
         for (int n = 1; n <= MAX_YEARS; n++) {
             thought.passYear();
             if (forgottenInThought() != 0) return n;
+        }
+        return NONE;
+    }
+
+    private int leastForgotten() {
+        int forgotten = forgottenInThought();
+        for (int custom = 0; custom < CUSTOMS; custom++) {
+            if (hasBit(forgotten, custom)) return custom;
         }
         return NONE;
     }
@@ -852,7 +851,7 @@ public final class LarderAges {
         }
 
         int kept(int jar) {
-            return has(jar) && food[jar] > 0 ? customsByKind(jar) : 0;
+            return has(jar) && food[jar] > 0 ? customsOf(kind[jar], figure[jar], shelf[jar]) : 0;
         }
 
         // ---- years

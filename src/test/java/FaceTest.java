@@ -1,29 +1,23 @@
 import com.sun.management.ThreadMXBean;
-import java.io.IOException;
 import java.lang.management.ManagementFactory;
 import java.lang.reflect.Constructor;
 import java.lang.reflect.Field;
 import java.lang.reflect.Method;
 import java.lang.reflect.Modifier;
-import java.nio.file.Files;
-import java.nio.file.Path;
 import java.util.ArrayList;
 import java.util.Arrays;
 import java.util.List;
 import java.util.Set;
 import java.util.TreeSet;
 
-/** The public face as the document writes it, and rules of LANGUAGE.md that can be looked up. */
+/** The public face as the document writes it, and the room that dear calls take. */
 public final class FaceTest {
-    private static final Path SOURCE = Path.of("src/main/java/LarderAges.java");
     private static final String[] FACE = {"int letter 1", "int larder 0", "int jar 2", "int known 0", "int moves 2",
         "int shuts 1", "int eats 2", "int folk 1", "int turn 3", "int years 1", "int knownThen 1", "int foodThen 2",
         "int hungerThen 1", "int first 1", "int lasts 1", "int shutBest 3", "int move 1", "int folkFor 2", "int only 0",
         "int keepers 1", "int fewest 0", "int dearest 0", "int fullest 1", "int age 1", "int leak 1", "int fill 4",
         "int feast 0", "int two 3", "long mice 4", "long mean 1", "int whatWas 2", "int row 1", "int judge 0",
         "int clear 0", "int lots 3", "int image 0", "int on 0", "int count 1"};
-    private static final String[] RULED_OUT = {"package ", "finally", "synchronized", "assert ", "::", "protected ",
-        "static {", "Exact(", "System.out", "native ", "while (true)", "Integer.MAX_VALUE", "Integer.MIN_VALUE"};
     /** 7.3 million fields and elements of 8 bytes at most and 600,000 heads of objects and arrays of 16. */
     private static final long ROOM = 7_300_000L * 8 + 600_000L * 16;
     private static final String[] DEAREST = {"shutBest 30 99 0", "mice 3 7 20 0", "lots 20 7 0", "move 30", "folkFor 3 30",
@@ -31,11 +25,10 @@ public final class FaceTest {
 
     private static final List<String> FAULTS = new ArrayList<>();
 
-    public static void main(String[] args) throws IOException {
+    public static void main(String[] args) {
         lookAtMethods();
         lookAtMembers();
         lookAtClassesInside();
-        lookAtSource();
         lookAtRoom();
         for (String fault : FAULTS) System.out.println(fault);
         System.out.println(FAULTS.size() + " faults of the face");
@@ -89,12 +82,6 @@ public final class FaceTest {
     private static boolean isOfFace(String name) {
         for (String told : FACE) if (told.split(" ")[1].equals(name)) return true;
         return false;
-    }
-
-    private static void lookAtSource() throws IOException {
-        String source = Files.readString(SOURCE);
-        for (String word : RULED_OUT) mustBe(!source.contains(word), "the source holds '" + word.trim() + "'");
-        mustBe(source.chars().allMatch(c -> c < 127), "the source holds other signs than plain ones");
     }
 
     /** What a run of the dearest calls takes of the one room that all calls live in. */
